@@ -543,7 +543,6 @@ public final class HeightSheet {
         private void reckon(Formulas all) {
             Arrays.fill(heights, 0);
             Arrays.fill(readBits, 0);
-            Arrays.fill(waitsFor, NONE);
             known = 0;
             boolean isMore = true;
             // A round that settles none is the last, and it has seen all that WAIT as they stay.
