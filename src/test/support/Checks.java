@@ -31,6 +31,13 @@ final class Checks {
         if (got != want) fail(x.trail() + " answered " + got + ", due is " + want);
     }
 
+    /** It is not refused; how many it tells is not looked at. */
+    void some(Run x, String call) {
+        asked++;
+        int got = x.ask(call);
+        if (got < 1) fail(x.trail() + " answered " + got + ", due is 1 or more");
+    }
+
     /** The same call with each of some numbers behind it, and the answer that is due for each. */
     void row(Run x, String call, int[] numbers, int... wants) {
         if (numbers.length != wants.length) throw new IllegalStateException(call + ": as many answers as numbers are due");
