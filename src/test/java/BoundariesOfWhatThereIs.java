@@ -382,6 +382,10 @@ public final class BoundariesOfWhatThereIs {
         x = new Run();
         for (int c = 1; c < 30; c++) x.ask("put " + c + " 6 0 " + (c - 1) + " 0");
         checks.row(x, "rule", 29, 30, 0, 0, 0, 29, 435, 20);
+        // The same way down: CELL 0 alone is the highest.
+        x = new Run();
+        for (int c = 0; c < 29; c++) x.ask("put " + c + " 2 " + (c + 1) + " " + (c + 1) + " 0");
+        checks.row(x, "rule", 29, 30, 0, 0, 0, 29, 29, 20);
         x = new Run();
         for (int c = 0; c < 30; c++) x.ask("put " + c + " 7 0 29 0");
         checks.row(x, "rule", 30, 0, 30, 1, 1, 0, 30, 20);

@@ -95,5 +95,21 @@ public final class HeightSheetFace {
         m = Pattern.compile("import ([\\w.]+);").matcher(code);
         while (m.find()) check(m.group(1).equals("java.util.Arrays"), "no import of " + m.group(1));
         check(code.lines().allMatch(line -> line.length() <= 130), "no line is long");
+        methodsAreShort(text.split("\n"));
+    }
+
+    /** From the line that opens a method to the one that closes it, which stands as far in. */
+    private static void methodsAreShort(String[] lines) {
+        int methods = 0;
+        for (int from = 0; from < lines.length; from++) {
+            Matcher head = Pattern.compile("( +)(?:private|public) [^=]*\\) \\{").matcher(lines[from]);
+            if (head.matches()) {
+                int to = from;
+                while (to < lines.length && !lines[to].equals(head.group(1) + "}")) to++;
+                check(to - from < 60, "few lines in" + lines[from]);
+                methods++;
+            }
+        }
+        check(methods >= FACE.length, "the methods are found in the source");
     }
 }
