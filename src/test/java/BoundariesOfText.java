@@ -232,8 +232,8 @@ public final class BoundariesOfText {
         checks.due(x, "value 4", 16);
         x = new Run("put 0 8 1 2 3", "text");
         checks.row(x, "cell 0", 0, 0, 0, 0);
-        checks.says(TAKEN, "there was no CHANGE, there is nothing to undo;");
         for (String[] state : new String[][] {States.RICH, States.ALL_UNDOABLE, States.NEW}) {
+            checks.says(TAKEN, "there was no CHANGE, there is nothing to undo;");
             x = new Run(state);
             checks.due(x, "end 0", state == States.RICH ? 18 : 0);
             checks.due(x, "text", 0);

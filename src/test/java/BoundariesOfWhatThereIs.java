@@ -368,6 +368,8 @@ public final class BoundariesOfWhatThereIs {
         for (String what : new String[] {"-1", "8", "9", "MIN", "MAX"}) {
             for (String[] state : States.ALL) checks.unchanged(state, "rule " + what, BAD);
         }
+        checks.says("Promise 6", "How many: 0 CELLS that have a FORMULA (no none), 1 with a VALUE, 2 that WAIT, 3 CIRCULAR, 4 circles, "
+                + "5 the greatest HEIGHT, 6 READS of all, 7 CHANGES that can be undone.");
         checks.row(new Run(), "rule", 0, 30, 0, 0, 0, 0, 0, 0);
         for (int what = 0; what < 8; what++) checks.unchanged(States.RICH, "rule " + what, new Run(States.RICH).ask("rule " + what));
         Run x = new Run();
