@@ -6,7 +6,7 @@ import java.lang.reflect.Modifier;
 import java.nio.charset.StandardCharsets;
 import java.nio.file.Files;
 import java.nio.file.Path;
-import java.util.Arrays;
+import java.util.List;
 import java.util.Set;
 import java.util.TreeSet;
 import java.util.regex.Matcher;
@@ -14,10 +14,8 @@ import java.util.regex.Pattern;
 
 /** The class shows what the document's face tells and no more, and keeps to what can be seen of LANGUAGE.md. */
 public final class HeightSheetFace {
-    private static final String[] FACE = {
-        "feed 1", "end 1", "text 0", "fault 0", "rule 1", "cell 2", "value 1", "reads 2", "reader 2", "far 2", "order 1",
-        "circle 2", "put 5", "would 6", "latest 1", "undo 0", "storm 2", "keep 1", "back 1", "sheet 3", "lay 3", "read 4",
-        "torn 0", "count 1"};
+    /** As the document writes them: "feed(int c)". */
+    private static final List<String> FACE = Document.face();
     private static final String FORBIDDEN =
             "\\b(throw|throws|try|catch|synchronized|assert|Object|null\\s*\\(|static\\s*\\{|equals|hashCode|toString|\\w+Exact)\\b|->|::";
     private static int wrong = 0;
@@ -40,8 +38,8 @@ public final class HeightSheetFace {
 
     private static void methods() {
         Set<String> seen = new TreeSet<>();
-        Set<String> names = new TreeSet<>();
-        for (String f : FACE) names.add(f.substring(0, f.indexOf(' ')));
+        Set<String> due = new TreeSet<>();
+        for (String call : FACE) due.add(nameOf(call) + " " + parametersOf(call));
         for (Method m : HeightSheet.class.getDeclaredMethods()) {
             if (Modifier.isPublic(m.getModifiers())) {
                 seen.add(m.getName() + " " + m.getParameterCount());
@@ -49,10 +47,22 @@ public final class HeightSheetFace {
                 for (Class<?> p : m.getParameterTypes()) check(p == int.class, m.getName() + " takes ints");
             } else {
                 check(Modifier.isPrivate(m.getModifiers()), m.getName() + " is private");
-                check(!names.contains(m.getName()), m.getName() + " bears no public name");
+                check(!isOfFace(m.getName()), m.getName() + " bears no public name");
             }
         }
-        check(seen.equals(new TreeSet<>(Arrays.asList(FACE))), "the public methods are those of the face");
+        check(seen.equals(due), "the public methods are those of the face");
+    }
+
+    private static String nameOf(String call) {
+        return call.substring(0, call.indexOf('('));
+    }
+
+    private static int parametersOf(String call) {
+        return call.endsWith("()") ? 0 : call.split(",").length;
+    }
+
+    private static boolean isOfFace(String name) {
+        return FACE.stream().anyMatch(call -> nameOf(call).equals(name));
     }
 
     private static void fieldsAndConstructor() {
@@ -81,7 +91,7 @@ public final class HeightSheetFace {
             check(c.getDeclaredFields().length <= 20, c + " has few fields");
             for (Method method : c.getDeclaredMethods()) {
                 check(method.getParameterCount() <= 7, method + " takes few parameters");
-                for (String f : FACE) check(!f.startsWith(method.getName() + " "), method + " bears no public name");
+                check(!isOfFace(method.getName()), method + " bears no public name");
             }
         }
     }
@@ -95,6 +105,7 @@ public final class HeightSheetFace {
         m = Pattern.compile("import ([\\w.]+);").matcher(code);
         while (m.find()) check(m.group(1).equals("java.util.Arrays"), "no import of " + m.group(1));
         check(code.lines().allMatch(line -> line.length() <= 130), "no line is long");
+        for (String call : FACE) check(code.contains("\n    public int " + call + " {\n"), call + " is written as the face has it");
         methodsAreShort(text.split("\n"));
     }
 
@@ -110,6 +121,6 @@ public final class HeightSheetFace {
                 methods++;
             }
         }
-        check(methods >= FACE.length, "the methods are found in the source");
+        check(methods >= FACE.size(), "the methods are found in the source");
     }
 }

@@ -3,9 +3,12 @@ import java.io.UncheckedIOException;
 import java.nio.charset.StandardCharsets;
 import java.nio.file.Files;
 import java.nio.file.Path;
+import java.util.ArrayList;
 import java.util.LinkedHashMap;
 import java.util.List;
 import java.util.Map;
+import java.util.regex.Matcher;
+import java.util.regex.Pattern;
 
 /**
  * The parts of ../shared/DOC.md that a test answers for. The test names each sentence by the document's own words;
@@ -33,6 +36,17 @@ final class Document {
         } catch (IOException e) {
             throw new UncheckedIOException(e);
         }
+    }
+
+    /** The calls of the public face as the document writes them: "feed(int c)". */
+    static List<String> face() {
+        List<String> calls = new ArrayList<>();
+        for (String line : linesOf(PLACE)) {
+            Matcher call = Pattern.compile(" +public int (\\w+\\([^)]*\\));").matcher(line);
+            if (call.matches()) calls.add(call.group(1));
+        }
+        if (calls.size() != 24) throw new IllegalStateException("the document's face has 24 calls, not " + calls);
+        return calls;
     }
 
     /** The line below the heading, without the signature ahead of it. */
